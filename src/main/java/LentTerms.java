@@ -11,7 +11,7 @@ public final class LentTerms {
     private static final int KINDS = 6, MOST_COPIES = 3, MOST_FEE = 9, MOST_WORTH = 99, MOST_USED = 9;
     private static final int TERM_LIMIT = 8, LOAN_LIMIT = 10, SAID_LIMIT = 10, RULE_LIMIT = 8;
     private static final int WANT_LIMIT = 5, WANT_TERMS = 3, SAYING_LIMIT = 8;
-    private static final int TEXT_LIMIT = 250, TYPE_LIMIT = 8, IMAGE_LIMIT = 2;
+    private static final int TEXT_LIMIT = 250, TYPE_LIMIT = 8, IMAGE_LIMIT = 2, COUNTS = 7;
 
     private static final int EVERYBODY = (1 << PEOPLE) - 1;
 
@@ -193,7 +193,7 @@ public final class LentTerms {
     }
 
     public int dumb(int matter) {
-        return now.isMatter(matter) ? Talk.leastKept(now, matter) : told(BAD);
+        return now.isMatter(matter) ? talk.leastKept(now, matter) : told(BAD);
     }
 
     // ---- what there is
@@ -250,7 +250,7 @@ public final class LentTerms {
 
     public long digest() {
         long h = 719;
-        for (int what = 0; what <= 6; what++) {
+        for (int what = 0; what < COUNTS; what++) {
             h = 31 * h + howMany(what);
         }
         h = now.digestOn(h);
@@ -376,7 +376,8 @@ public final class LentTerms {
         }
 
         int at(int row, int column) {
-            return holds(row) && column >= 0 && column < width ? cells[row * MOST_WIDTH + column] : 0;
+            boolean isThere = row >= 0 && row < size && column >= 0 && column < width;
+            return isThere ? cells[row * MOST_WIDTH + column] : 0;
         }
 
         /** The row's number, or FULL. */
@@ -665,6 +666,10 @@ public final class LentTerms {
     private static final class Talk {
         /** The fewest TERMS that say each one; 0: it can not be said. */
         private final int[] least = new int[TERM_LIMIT];
+        /** Of each RULE what it says and what that needs, as bits: DUMB asks for them over and over. */
+        private final int[] says = new int[RULE_LIMIT];
+        private final int[] needs = new int[RULE_LIMIT];
+        private int rules = 0;
 
         /** The fewest way of a TERM never meets it again, so as many rounds as TERMS are enough. */
         void weigh(Counter counter, int set) {
@@ -725,11 +730,12 @@ public final class LentTerms {
             return term >= 0 && term < TERM_LIMIT;
         }
 
-        static int leastKept(Counter counter, int matter) {
+        int leastKept(Counter counter, int matter) {
             int all = counter.allTerms();
+            learn(counter);
             for (int size = 0; size <= TERM_LIMIT; size++) {
                 for (int kept = 0; kept <= all; kept++) {
-                    if (Integer.bitCount(kept) == size && isDumb(counter, matter, canSay(counter, all & ~kept))) {
+                    if (Integer.bitCount(kept) == size && isDumb(counter, matter, sayableBy(all & ~kept))) {
                         return kept;
                     }
                 }
@@ -746,15 +752,22 @@ public final class LentTerms {
             return true;
         }
 
-        private static int canSay(Counter counter, int set) {
+        private void learn(Counter counter) {
+            rules = Math.min(counter.rules.size(), RULE_LIMIT);
+            for (int rule = 0; rule < rules; rule++) {
+                says[rule] = 1 << counter.rules.at(rule, SAID_AS);
+                needs[rule] = 1 << counter.rules.at(rule, LEFT) | 1 << counter.rules.at(rule, RIGHT);
+            }
+        }
+
+        private int sayableBy(int set) {
             int sayable = set;
-            int before = 0;
-            for (int round = 0; round < TERM_LIMIT && sayable != before; round++) {
+            int before = NONE;
+            for (int round = 0; round <= TERM_LIMIT && sayable != before; round++) {
                 before = sayable;
-                for (int rule = 0; rule < counter.rules.size(); rule++) {
-                    if (hasBit(sayable, counter.rules.at(rule, LEFT))
-                        && hasBit(sayable, counter.rules.at(rule, RIGHT))) {
-                        sayable |= 1 << counter.rules.at(rule, SAID_AS);
+                for (int rule = 0; rule < rules; rule++) {
+                    if ((needs[rule] & ~sayable) == 0) {
+                        sayable |= says[rule];
                     }
                 }
             }
@@ -786,7 +799,7 @@ public final class LentTerms {
         int bestToBuy(Counter counter) {
             int most = mostMet(counter, NONE);
             int bought = NONE;
-            for (int term = 0; term < counter.terms.size(); term++) {
+            for (int term = 0; term < counter.terms.size() && most < counter.wants.size(); term++) {
                 boolean canGrow = !counter.isOneAtATime(term) && counter.mayHave(term) < MOST_COPIES;
                 int grown = canGrow ? mostMet(counter, term) : 0;
                 if (grown > most) {
@@ -847,9 +860,6 @@ public final class LentTerms {
 
     /** STUCK and BREAK. */
     private static final class Ring {
-        private Ring() {
-        }
-
         /** What is given back only frees more, so whoever can give back may as well do so at once. */
         static int stuckAfter(Counter counter, int givers) {
             int gone = givers;
