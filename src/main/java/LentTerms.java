@@ -1092,8 +1092,8 @@ public final class LentTerms {
             }
         }
 
+        /** Blanks ahead of it are skipped already. */
         private int takeWord() {
-            skipBlanks();
             int end = at;
             while (end < size && isLetter(end)) {
                 end++;

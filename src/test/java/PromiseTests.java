@@ -25,6 +25,7 @@ public final class PromiseTests {
         sayingAndJudging();
         typing();
         reading();
+        readingAgain();
         readingFaults();
         readingRefusals();
         rules();
@@ -366,13 +367,48 @@ public final class PromiseTests {
         due(14, "no refusal", x.status(0) + x.status(1) + x.status(2), 0);
     }
 
+    private static void readingAgain() {
+        LentTerms x = new LentTerms();
+        String all = "term 0 1 1;term 1 2 3;term 2 3 4;rule 0 1 2;loan 3 1 5 6;loan 1 2 5 6;want 4 6 1 3;saying 5 7;";
+        due(14, "all of it", readOf(x, all), 8);
+        due(14, "all of it, told by numbers", x.digest(), folded(3, 2, 0, 1, 1, 1, all.length(), 0, 1, 1, 1, 2, 3, 2, 3, 4,
+            3, 1, 5, 6, 1, 2, 5, 6, 0, 1, 2, 4, 6, 1, 3, 0, 0, 0, 0, 0, 0, 0, 0, 0, 0, 0, 0, 0, 0, 0, 0, 0, 0, 0, 0, 0, 0, 0, 0, 0,
+            5, 7, 0, 1));
+        long first = x.digest();
+        x.said(3, 1, 5);
+        for (int p = 0; p < 5; p++) {
+            x.waits(p, 1, 6);
+            x.worth(p, p % 3, 9);
+        }
+        for (int i = 0; i < 3; i++) {
+            due(14, "all of it, again", x.read(), 8);
+            due(14, "nothing else", x.digest(), first);
+            x.said(3, 1, 5);
+            x.waits(i, 2, 1);
+            x.worth(i, 2, 9);
+        }
+        int size = all.length();
+        due(14, "one TERM alone", readOf(x, "term 3 3 3;"), 1);
+        due(14, "none of what stood", x.count(1) + x.count(2) + x.count(3) + x.count(4) + x.count(5), 0);
+        x.clear();
+        typed(x, all);
+        x.read();
+        due(14, "refused", readOf(x, "term 5 1 1;loan 0 0 9 8;"), -1001);
+        x.clear();
+        typed(x, all);
+        due(14, "what was read before stays", x.digest(), first);
+        due(14, "THE TEXT", x.count(6), size);
+    }
+
     private static void readingFaults() {
         LentTerms x = ofCommon(3, 1);
         String[] texts = {";", "term", "term ", "term 0", "term 0 1", "term 0 1 1", "term 0 1 1  ", "term 0 1;", "term 0 1 1 1;",
             "term 0 1 1;;", "ter", "terms 0 1 1;", "term 0 1 1;  rul", "term 1000 1 1;", "term 0 1 12345", "0 1 1;", "term term",
             "Term", "term 0 1 1;term 0 1 1", "termrule 1 0 0;", "term 0,1 1;", "term 0 1 1; \u00e9", "saying 1 1 1;", "want 1 1 1;",
-            "rule 0 0000 0;", "term\t0", "term 0 1 1;1234", "term 0 1 x", "loan 0 0 1;", "a", "\u0000", "term 0 1 -1;", "term 9 9 9;loan;"};
-        int[] faults = {0, 4, 5, 6, 8, 10, 12, 8, 11, 11, 0, 0, 13, 5, 9, 0, 5, 0, 21, 0, 6, 12, 11, 10, 7, 4, 11, 9, 10, 0, 0, 9, 15};
+            "rule 0 0000 0;", "term\t0", "term 0 1 1;1234", "term 0 1 x", "loan 0 0 1;", "a", "\u0000", "term 0 1 -1;", "term 9 9 9;loan;",
+            "termz 0 1 1;", "aterm 0 1 1;", "xerm 0 1 1;", "ter0", "terx 0 1 1;", "term 0 1 1 ;ruleloan"};
+        int[] faults = {0, 4, 5, 6, 8, 10, 12, 8, 11, 11, 0, 0, 13, 5, 9, 0, 5, 0, 21, 0, 6, 12, 11, 10, 7, 4, 11, 9, 10, 0, 0, 9, 15,
+            0, 0, 0, 0, 0, 12};
         for (int i = 0; i < texts.length; i++) {
             due(14, "<" + texts[i] + ">", readOf(x, texts[i]), -10 - faults[i]);
         }
@@ -692,6 +728,9 @@ public final class PromiseTests {
         }
         due(23, "status(0)", x.status(0), bad.length);
 
+        x.worth(3, 2, 1);
+        dueDeal(x, 20, 0, 8, 1, 2, 8);
+
         LentTerms tie = ofCommon(2, 1);
         for (int p = 0; p < 5; p++) {
             tie.worth(p, 0, 4);
@@ -841,6 +880,16 @@ public final class PromiseTests {
             due(30, "from(" + b + ")", x.from(b), -2);
         }
         due(30, "STATUS stays", x.status(0), 2 * bad.length);
+        LentTerms other = ofCommon(2, 2);
+        other.loan(1, 1, 2, 3);
+        other.saying(1, 2);
+        other.image(1);
+        long told = other.digest();
+        other.close();
+        other.loan(2, 0, 7, 9);
+        due(30, "another LOAN of the same number", other.digest() == told ? 1 : 0, 0);
+        other.from(1);
+        due(30, "the LOAN that was kept", other.digest(), told);
         LentTerms y = new LentTerms();
         y.image(1);
         due(30, "none kept", y.from(0), -3);
