@@ -816,7 +816,7 @@ public final class LentTerms {
             if (metSoFar + left <= way.met) {
                 return;
             }
-            if (left <= 0 || want >= WANT_LIMIT) {
+            if (left <= 0 || want < 0 || want >= WANT_LIMIT) {
                 System.arraycopy(way.hours, 0, way.best, 0, WANT_LIMIT);
                 way.met = metSoFar;
                 return;

@@ -449,6 +449,15 @@ public final class CounterBoundaries {
         }
     }
 
+    static void promise07TheVeryFirstLoanMayBeWrong() {
+        for (int kind = 1; kind < 6; kind += 2) {
+            LentTerms x = Boundary.ofEachKind(3, 1);
+            x.loan(0, kind, 0, 2);
+            x.loan(0, kind, 0, 23);
+            due("KIND " + kind, x.wrong(), 0);
+        }
+    }
+
     static void promise07AsManyAsMayAreNotWrongOneMoreIs() {
         for (int kind = 0; kind < 6; kind++) {
             for (int copies = 1; copies <= 3; copies++) {

@@ -226,6 +226,29 @@ public final class ReadBoundaries {
         dueFault("term 0 1 1; said 0 0 0;", 12);
     }
 
+    static void promise14AWordGoesAsFarAsLettersDo() {
+        for (char letter = 'a'; letter <= 'z'; letter++) {
+            dueFault("term" + letter + " 0 1 1;", 0);
+            dueFault("term" + letter, 0);
+            dueFault(letter + "term 0 1 1;", 0);
+            dueFault(String.valueOf(letter), 0);
+            dueFault("term 0 1 1; " + letter + letter, 12);
+            dueFault("term 0" + letter + " 1 1;", 6);
+            dueFault("term " + letter + "0 1 1;", 5);
+        }
+    }
+
+    static void promise14ANumberGoesAsFarAsFiguresDo() {
+        for (char figure = '0'; figure <= '9'; figure++) {
+            dueFault("term 000" + figure + " 1 1;", 5);
+            dueFault("term " + figure + "000 1 1;", 5);
+            dueFault("term " + figure, 6);
+            dueFault(figure + "term 0 1 1;", 0);
+            dueRead("term 0 1 00" + figure + ";", 1);
+            dueRefused("term 0 1 " + (figure == '0' ? 1 : figure - '0') + "00;", 0);
+        }
+    }
+
     static void promise14AWordThatIsBrokenByABadByteIsNone() {
         dueFault("te\u0000rm 0 1 1;", 0);
         dueFault("ter", 0);
@@ -427,7 +450,40 @@ public final class ReadBoundaries {
         due("digest()", x.digest(), one.digest());
     }
 
+    static void promise14WhatWasReadStaysIfTheNextIsRefused() {
+        LentTerms x = Boundary.with(THREE + "loan 4 2 0 23;saying 7 9;");
+        due("read()", x.read(), 5);
+        Boundary.Sheet s = sheetOf(3, 0);
+        s.loans = Boundary.rows(n(4, 2, 0, 23));
+        s.sayings = Boundary.rows(n(7, 9));
+        String[] texts = {"term 0 1 1;rule 0 0 0;", "term 0 1 1;term", "term 6 1 1;"};
+        int[] answers = {REFUSED - 1, FAULT - 15, REFUSED};
+        for (int i = 0; i < texts.length; i++) {
+            retyped(x, texts[i]);
+            due("read() of <" + texts[i] + ">", x.read(), answers[i]);
+            s.bytes = texts[i].length();
+            due("digest()", x.digest(), s.digest());
+        }
+    }
+
     // ---- what is told anew, and what stays
+
+    static void promise14NothingElseIsToldHoweverOftenItIsRead() {
+        LentTerms x = new LentTerms();
+        Boundary.with(x, THREE);
+        for (int time = 0; time < 5; time++) {
+            due("read()", x.read(), 3);
+            due("digest()", x.digest(), sheetOf(3, THREE.length()).digest());
+            due("loan", x.loan(0, 1, 2, 3), 0);
+            due("said", x.said(0, 1, 2), 0);
+            due("rule", x.rule(0, 1, 2), 0);
+            due("want", x.want(0, 1, 2, 3), 0);
+            due("waits", x.waits(4, 1, 2) + x.waits(0, 4, 0), 2);
+            due("worth", x.worth(0, 0, 1) + x.worth(4, 2, 99), 0);
+            due("saying", x.saying(1, 1), 0);
+            due("a fourth TERM", x.term(5, 3, 9), 3);
+        }
+    }
 
     static void promise14NothingElseIsTold() {
         LentTerms x = retyped(Boundary.full(), THREE);

@@ -505,6 +505,16 @@ public final class TalkAndPlanBoundaries {
         due("TERM 0", y.buy(), 0);
     }
 
+    static void promise19OneCopyMoreNotTwo() {
+        LentTerms x = Boundary.ofCommon(2, 1);
+        x.want(0, 1, 5, 5);
+        x.want(1, 1, 5, 5);
+        for (int person = 2; person < 5; person++) {
+            x.want(person, 2, 7, 7);
+        }
+        due("two of TERM 1 would let more be met", x.buy(), 0);
+    }
+
     static void promise19NoneIfOnePersonStandsInHisOwnWay() {
         LentTerms x = Boundary.ofCommon(1, 1);
         x.want(3, 1, 9, 9);
