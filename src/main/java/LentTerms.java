@@ -184,11 +184,7 @@ public final class LentTerms {
         if (!hasBit(able, saying)) {
             return told(NO);
         }
-        int one = now.sayings.at(saying, USED);
-        int all = now.usedOf(able);
-        int shared = commonDivisor(one, all);
-        above = one / shared;
-        below = all / shared;
+        setFraction(now.sayings.at(saying, USED), now.usedOf(able));
         return 1;
     }
 
@@ -296,6 +292,19 @@ public final class LentTerms {
         return BAD_TEN;
     }
 
+    /** USED is 9 at most, so that counting down from it is short. */
+    private void setFraction(int one, int all) {
+        above = one;
+        below = all;
+        for (int d = one; d > 1; d--) {
+            if (one % d == 0 && all % d == 0) {
+                above = one / d;
+                below = all / d;
+                return;
+            }
+        }
+    }
+
     private static boolean isPerson(int person) {
         return person >= 0 && person < PEOPLE;
     }
@@ -310,16 +319,6 @@ public final class LentTerms {
 
     private static boolean hasBit(int bits, int i) {
         return i >= 0 && i < 32 && (bits >> i & 1) == 1;
-    }
-
-    /** USED is 9 at most, so that counting down from it is short. */
-    private static int commonDivisor(int one, int all) {
-        for (int d = one; d > 1; d--) {
-            if (one % d == 0 && all % d == 0) {
-                return d;
-            }
-        }
-        return 1;
     }
 
     /** What a KIND says, told down from the KIND that it is under. */

@@ -1,13 +1,20 @@
 import com.sun.source.tree.BinaryTree;
 import com.sun.source.tree.ClassTree;
 import com.sun.source.tree.CompilationUnitTree;
+import com.sun.source.tree.CompoundAssignmentTree;
+import com.sun.source.tree.DoWhileLoopTree;
+import com.sun.source.tree.EnhancedForLoopTree;
+import com.sun.source.tree.ExpressionTree;
+import com.sun.source.tree.ForLoopTree;
 import com.sun.source.tree.ImportTree;
+import com.sun.source.tree.LiteralTree;
 import com.sun.source.tree.MethodInvocationTree;
 import com.sun.source.tree.MethodTree;
 import com.sun.source.tree.NewArrayTree;
 import com.sun.source.tree.NewClassTree;
 import com.sun.source.tree.Tree;
 import com.sun.source.tree.VariableTree;
+import com.sun.source.tree.WhileLoopTree;
 import com.sun.source.util.JavacTask;
 import com.sun.source.util.TreePath;
 import com.sun.source.util.TreePathScanner;
@@ -67,6 +74,7 @@ public final class LanguageTests {
         private final Trees trees;
         private final CompilationUnitTree unit;
         private final Map<String, Set<String>> calls = new HashMap<>();
+        private final Set<String> privateStatics = new HashSet<>();
         private final Set<String> publicNames = new TreeSet<>(), privateNames = new TreeSet<>(), face = new TreeSet<>();
         private int classes = 0;
         private int methods = 0;
@@ -172,6 +180,9 @@ public final class LanguageTests {
             String outer = method;
             method = nameOf(e);
             calls.put(method, new HashSet<>());
+            if (e.getModifiers().containsAll(Set.of(Modifier.PRIVATE, Modifier.STATIC))) {
+                privateStatics.add(method);
+            }
             super.visitMethod(tree, none);
             method = outer;
             return null;
@@ -203,7 +214,38 @@ public final class LanguageTests {
             if (left.equals("java.lang.String") || right.equals("java.lang.String")) {
                 fault(10, tree, "no texts in " + tree);
             }
+            lookAtDivisor(tree.getKind(), tree, tree.getRightOperand());
             return super.visitBinary(tree, none);
+        }
+
+        @Override
+        public Void visitCompoundAssignment(CompoundAssignmentTree tree, Void none) {
+            lookAtDivisor(tree.getKind(), tree, tree.getExpression());
+            return super.visitCompoundAssignment(tree, none);
+        }
+
+        private void lookAtDivisor(Tree.Kind kind, Tree tree, ExpressionTree divisor) {
+            boolean divides = Set.of(Tree.Kind.DIVIDE, Tree.Kind.REMAINDER, Tree.Kind.DIVIDE_ASSIGNMENT,
+                Tree.Kind.REMAINDER_ASSIGNMENT).contains(kind);
+            if (divides && !isAbove(divisor) && !isCountedAboveNought(divisor)) {
+                fault(7, tree, "a divisor is looked at before it divides: " + tree);
+            }
+        }
+
+        private static boolean isAbove(ExpressionTree number) {
+            return number instanceof LiteralTree l && l.getValue() instanceof Integer v && v > 0;
+        }
+
+        /** By a loop around it that goes on only while it is above a number. */
+        private boolean isCountedAboveNought(ExpressionTree divisor) {
+            for (TreePath path = getCurrentPath(); path != null; path = path.getParentPath()) {
+                if (path.getLeaf() instanceof ForLoopTree loop && loop.getCondition() instanceof BinaryTree condition
+                    && condition.getKind() == Tree.Kind.GREATER_THAN && isAbove(condition.getRightOperand())
+                    && condition.getLeftOperand().toString().equals(divisor.toString())) {
+                    return true;
+                }
+            }
+            return false;
         }
 
         @Override
@@ -226,22 +268,42 @@ public final class LanguageTests {
         }
 
         @Override
-        public Void visitForLoop(com.sun.source.tree.ForLoopTree tree, Void none) {
-            if (tree.getCondition() == null) {
-                fault(9, tree, "a loop has an end");
-            }
-            loops++;
+        public Void visitForLoop(ForLoopTree tree, Void none) {
+            enterLoop(tree, tree.getCondition());
             super.visitForLoop(tree, none);
             loops--;
             return null;
         }
 
         @Override
-        public Void visitWhileLoop(com.sun.source.tree.WhileLoopTree tree, Void none) {
-            loops++;
+        public Void visitWhileLoop(WhileLoopTree tree, Void none) {
+            enterLoop(tree, tree.getCondition());
             super.visitWhileLoop(tree, none);
             loops--;
             return null;
+        }
+
+        @Override
+        public Void visitDoWhileLoop(DoWhileLoopTree tree, Void none) {
+            enterLoop(tree, tree.getCondition());
+            super.visitDoWhileLoop(tree, none);
+            loops--;
+            return null;
+        }
+
+        @Override
+        public Void visitEnhancedForLoop(EnhancedForLoopTree tree, Void none) {
+            loops++;
+            super.visitEnhancedForLoop(tree, none);
+            loops--;
+            return null;
+        }
+
+        private void enterLoop(Tree tree, ExpressionTree condition) {
+            loops++;
+            if (condition == null || condition.toString().replaceAll("[()]", "").equals("true")) {
+                fault(9, tree, "a loop has an end");
+            }
         }
 
         /** A method that calls itself counts once. */
@@ -254,6 +316,21 @@ public final class LanguageTests {
                 }
             }
             return deepest + 1;
+        }
+
+        /** Here all recursion is of one kind: a private static method that calls itself. */
+        private void judgeRecursion(String name) {
+            for (String called : calls.get(name)) {
+                boolean isItself = called.equals(name);
+                if (isItself && !privateStatics.contains(name) || !isItself && reaches(called, name, new HashSet<>())) {
+                    FAULTS.add("rule 8: " + name + " comes back to itself");
+                }
+            }
+        }
+
+        private boolean reaches(String from, String wanted, Set<String> seen) {
+            return from.equals(wanted) || seen.add(from)
+                && calls.getOrDefault(from, Set.of()).stream().anyMatch(next -> reaches(next, wanted, seen));
         }
 
         void judgeAll() {
@@ -273,6 +350,7 @@ public final class LanguageTests {
                 if (depth > DEPTH) {
                     FAULTS.add("rule 11: " + name + " goes " + depth + " calls deep");
                 }
+                judgeRecursion(name);
             }
         }
     }
